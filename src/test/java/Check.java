@@ -1,1 +1,92 @@
-public final class Check {}
+import java.nio.charset.StandardCharsets;
+
+/** What the tests share: answers compared with those that are due, refusals, and texts put on the tape. */
+final class Check {
+    private static int asked = 0;
+    private static int wrong = 0;
+
+    private Check() {
+    }
+
+    static void due(String call, long got, long want) {
+        asked++;
+        if (got != want) {
+            wrong++;
+            System.out.println(call + " answered " + got + ", due is " + want);
+        }
+    }
+
+    /** The call must throw just this class; what the machine throws is never of the same one. */
+    static void refused(String call, Class<? extends RuntimeException> want, Runnable run) {
+        asked++;
+        RuntimeException got = thrownBy(run);
+        if (got == null || got.getClass() != want) {
+            wrong++;
+            System.out.println(call + " threw " + got + ", due is " + want.getName());
+        }
+    }
+
+    static void unknown(String call, Runnable run) {
+        refused(call, IllegalArgumentException.class, run);
+    }
+
+    static void range(String call, Runnable run) {
+        refused(call, IndexOutOfBoundsException.class, run);
+    }
+
+    static void state(String call, Runnable run) {
+        refused(call, IllegalStateException.class, run);
+    }
+
+    static void noRoom(String call, Runnable run) {
+        refused(call, UnsupportedOperationException.class, run);
+    }
+
+    static RuntimeException thrownBy(Runnable run) {
+        try {
+            run.run();
+            return null;
+        } catch (RuntimeException e) {
+            return e;
+        }
+    }
+
+    /** Puts a text (characters 0 to 255) on the tape, in pieces of up to eight bytes. */
+    static void tape(CrewRules x, String text) {
+        byte[] bytes = text.getBytes(StandardCharsets.ISO_8859_1);
+        for (int i = 0; i < bytes.length; i += 8) {
+            int n = Math.min(8, bytes.length - i);
+            long piece = 0;
+            for (int k = 0; k < n; k++) {
+                piece = piece << 8 | bytes[i + k] & 0xff;
+            }
+            x.sign(piece, n);
+        }
+    }
+
+    static void right(CrewRules x, String text, int rules) {
+        tape(x, text);
+        due("read() of '" + text + "'", x.read(), rules);
+        due("place() after '" + text + "'", x.place(), -1);
+    }
+
+    static void wrongAt(CrewRules x, String text, int place) {
+        tape(x, text);
+        state("read() of '" + text + "'", x::read);
+        due("place() after '" + text + "'", x.place(), place);
+    }
+
+    static CrewRules with(String text) {
+        CrewRules x = new CrewRules();
+        tape(x, text);
+        x.read();
+        return x;
+    }
+
+    static void end() {
+        System.out.println(asked + " answers looked at, " + wrong + " not as due");
+        if (wrong != 0 || asked == 0) {
+            System.exit(1);
+        }
+    }
+}
