@@ -4,15 +4,23 @@ import java.nio.charset.StandardCharsets;
 final class Check {
     private static int asked = 0;
     private static int wrong = 0;
+    private static int sentences = 0;
+    private static String about = "";
 
     private Check() {
+    }
+
+    /** What follows tests this sentence of the document; it is told with each answer that is not as due. */
+    static void sentence(String where, String words) {
+        sentences++;
+        about = where + " \"" + words + "\": ";
     }
 
     static void due(String call, long got, long want) {
         asked++;
         if (got != want) {
             wrong++;
-            System.out.println(call + " answered " + got + ", due is " + want);
+            System.out.println(about + call + " answered " + got + ", due is " + want);
         }
     }
 
@@ -22,7 +30,7 @@ final class Check {
         RuntimeException got = thrownBy(run);
         if (got == null || got.getClass() != want) {
             wrong++;
-            System.out.println(call + " threw " + got + ", due is " + want.getName());
+            System.out.println(about + call + " threw " + got + ", due is " + want.getName());
         }
     }
 
@@ -51,6 +59,11 @@ final class Check {
         }
     }
 
+    /** The numbers next to a range, and the farthest ones. */
+    static int[] outside(int low, int high) {
+        return new int[] {low - 1, high + 1, Integer.MIN_VALUE, Integer.MAX_VALUE};
+    }
+
     /** Puts a text (characters 0 to 255) on the tape, in pieces of up to eight bytes. */
     static void tape(CrewRules x, String text) {
         byte[] bytes = text.getBytes(StandardCharsets.ISO_8859_1);
@@ -76,6 +89,14 @@ final class Check {
         due("place() after '" + text + "'", x.place(), place);
     }
 
+    static void right(String text, int rules) {
+        right(new CrewRules(), text, rules);
+    }
+
+    static void wrongAt(String text, int place) {
+        wrongAt(new CrewRules(), text, place);
+    }
+
     static CrewRules with(String text) {
         CrewRules x = new CrewRules();
         tape(x, text);
@@ -84,7 +105,8 @@ final class Check {
     }
 
     static void end() {
-        System.out.println(asked + " answers looked at, " + wrong + " not as due");
+        String of = sentences == 0 ? "" : " on " + sentences + " sentences";
+        System.out.println(asked + " answers" + of + " looked at, " + wrong + " not as due");
         if (wrong != 0 || asked == 0) {
             System.exit(1);
         }
