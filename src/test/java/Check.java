@@ -12,8 +12,16 @@ final class Check {
 
     /** What follows tests this sentence of the document; it is told with each answer that is not as due. */
     static void sentence(String where, String words) {
+        if (sentences == 0) {
+            Thread.setDefaultUncaughtExceptionHandler((thread, e) -> tellThrown(e));
+        }
         sentences++;
         about = where + " \"" + words + "\": ";
+    }
+
+    private static void tellThrown(Throwable e) {
+        System.out.println(about + "a call threw that should answer");
+        e.printStackTrace();
     }
 
     static void due(String call, long got, long want) {

@@ -120,6 +120,10 @@ public final class NeverEdgeTest {
         x.join(1, 0);
         x.join(2, 49);
         Check.due("in crews, in two crews", x.never(0, 0), 0);
+        x.join(3, 30);
+        x.join(3, 31);
+        Check.due("another question between", x.counts(3), 2);
+        Check.due("all persons again", x.never(0, 0), 0);
     }
 
     private static void needsOfMoreThanHaveIt() {

@@ -31,6 +31,7 @@ public final class TextEdgeTest {
         kindOfATenthRule();
         sameSkillTwice();
         rightTextsReplaceRules();
+        rightTextsReplaceNeeds();
         rightTextsReplaceSubstitutes();
         Check.end();
     }
@@ -196,8 +197,25 @@ public final class TextEdgeTest {
         }
         Check.wrongAt("v1:0-0" + ",0a".repeat(7) + ";", 24);
         Check.wrongAt("v1:0-0" + ",=0a>1".repeat(6) + " ,", 43);
-        // Each rule of a text has six of its own.
-        Check.right("v9:0-0" + ",0a".repeat(6) + ";v8:0-0" + ",0a".repeat(6) + ";v1:0-0" + ",0a".repeat(6) + ";", 3);
+        eachRuleHasSixOfItsOwn();
+    }
+
+    private static void eachRuleHasSixOfItsOwn() {
+        String unmet = ":0-9" + ",9a".repeat(6) + ";";
+        String met = ":0-9" + ",0a".repeat(6) + ";";
+        CrewRules x = Check.with("v9" + unmet + "v7" + unmet + "v8" + met + "v2" + met + "v1" + unmet + "v3" + unmet + "v4" + unmet);
+        int[] due = {10, 0, 10, 10, 1, 1, 10, 0, 10};
+        for (int kind = 1; kind <= 9; kind++) {
+            x.kind(kind, kind);
+            Check.due("the needs of kind " + kind, x.verdict(kind, 0), due[kind - 1]);
+        }
+        int[] never = {1, 3, 4, 7, 9, 0};
+        for (int i = 0; i < never.length; i++) {
+            Check.due("never(0, " + i + ")", x.never(0, i), never[i]);
+        }
+        Check.right(x, "v9" + met, 1);
+        Check.due("six needs of kind 9", x.verdict(9, 0), 0);
+        Check.due("six needs of kind 9", x.never(0, 0), 0);
     }
 
     private static void numbersOfNeeds() {
@@ -244,15 +262,30 @@ public final class TextEdgeTest {
         Check.right(x, ten, 0);
     }
 
+    /** Each byte there is behind each begin of a text: the table tells which ones may stand there. */
     private static void wrongAtTheFirstByte() {
         Check.sentence(TERMS, "A text is WRONG at the first byte with which it can't be right, whatever follows");
         String text = "v1:0-9~1^2,=1a>3;sa=b[1-2];";
-        for (int i = 0; i < text.length(); i++) {
-            Check.wrongAt(text.substring(0, i) + "?" + text.substring(i + 1), i);
-            Check.wrongAt(text.substring(0, i) + "?", i);
+        String digits = "0123456789";
+        String[] mayStand = {
+            "vs", "123456789", ":", digits, "-", digits, "~^,;", digits, digits + "^,;", "123456789", digits + ",;", "=" + digits, digits,
+            "abcdefghij", ">,;", digits, ",;", "vs", "abcdefghij", "=", "bcdefghij", "[", digits, "-" + digits, digits, "]0123", ";", "vs",
+        };
+        for (int i = 0; i <= text.length(); i++) {
+            for (char c = 0; c < 256; c++) {
+                String begin = text.substring(0, i) + c;
+                boolean rowsAreWhole = begin.replace(" ", "").endsWith(";");
+                boolean may = c == ' ' || mayStand[i].indexOf(c) >= 0;
+                if (!may) {
+                    Check.wrongAt(begin, i);
+                    Check.wrongAt(begin + "?;v1:0-0;", i);
+                } else if (rowsAreWhole || begin.isBlank()) {
+                    Check.right(begin, begin.startsWith("v") ? 1 : 0);
+                } else {
+                    Check.wrongAt(begin, i + 1);
+                }
+            }
         }
-        Check.wrongAt("v1:0-9?0-9;?", 6);
-        Check.wrongAt("  ?", 2);
     }
 
     private static void wrongAtTheLengthWhenSomethingIsMissing() {
@@ -422,6 +455,23 @@ public final class TextEdgeTest {
         Check.right(x, "sa=b[0-0];", 0);
         Check.unknown("rule(1, 0)", () -> x.rule(1, 0));
         Check.unknown("rule(3, 0)", () -> x.rule(3, 0));
+    }
+
+    private static void rightTextsReplaceNeeds() {
+        Check.sentence(TERMS, "A right text takes the place of all rules and substitutes there were.");
+        CrewRules x = new CrewRules();
+        for (int i = 0; i < 3; i++) {
+            Check.right(x, "v1:0-9,0a,9a,9a,9a,9a,9a;v2:0-9,9a,9a,9a,9a,9a,9a;v9:0-9,=9a>9;", 3);
+        }
+        for (int i = 0; i < 3; i++) {
+            Check.right(x, "v1:0-9,0a;v2:0-9;v9:0-9,0a;", 3);
+            x.kind(2, 2);
+            x.kind(9, 9);
+            Check.due("one need, and it is met", x.verdict(1, 0), 0);
+            Check.due("no need any more", x.verdict(2, 0), 0);
+            Check.due("neither exactly nor a rank", x.verdict(9, 0), 0);
+            Check.due("all can be met", x.never(0, 0), 0);
+        }
     }
 
     private static void rightTextsReplaceSubstitutes() {
